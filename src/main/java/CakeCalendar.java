@@ -450,13 +450,10 @@ public final class CakeCalendar {
         }
 
         int takeBack() {
-            if (steps <= 0) {
+            if (steps <= 0 || nextStep < 0 || nextStep >= STEPS_MOST) {
                 return NONE;
             }
-            int latest = (nextStep + STEPS_MOST - 1) % STEPS_MOST;
-            if (latest < 0) {
-                return NONE;
-            }
+            int latest = nextStep == 0 ? STEPS_MOST - 1 : nextStep - 1;
             System.arraycopy(rowsAhead, latest * ROW, row, 0, ROW);
             nextStep = latest;
             steps--;
@@ -464,9 +461,6 @@ public final class CakeCalendar {
         }
 
         void copyFrom(Convent other) {
-            if (other == null) {
-                return;
-            }
             System.arraycopy(other.row, 0, row, 0, ROW);
             System.arraycopy(other.rowsAhead, 0, rowsAhead, 0, ROW * STEPS_MOST);
             nextStep = other.nextStep;
@@ -490,9 +484,6 @@ public final class CakeCalendar {
         int dawn = 0;
 
         void loadFrom(Convent convent, int from) {
-            if (convent == null) {
-                return;
-            }
             table = from;
             day = convent.get(Convent.dayAt(from));
             left = convent.get(Convent.leftAt(from));
@@ -530,9 +521,6 @@ public final class CakeCalendar {
 
         /** The SISTERS of the set eat by number: how many slices. */
         int eatenBy(int set, Cake from) {
-            if (from == null || convent == null) {
-                return 0;
-            }
             int before = from.left;
             boolean ruled = law != null && law.hasEats();
             sums.tell(from.day, from.table, from.dawn);
@@ -552,9 +540,6 @@ public final class CakeCalendar {
 
         /** A DAWN at one table, without the mice: how many slices are eaten. */
         int dawnAt(Cake one, int set) {
-            if (one == null) {
-                return 0;
-            }
             one.dawn++;
             if (one.left == 0 && one.hidden == 0 && one.day < DAY_LAST) {
                 one.day++;
@@ -565,9 +550,6 @@ public final class CakeCalendar {
 
         /** A DAWN that is done, as a STEP: how many slices are eaten, by mice too. */
         int dawnForAll() {
-            if (convent == null) {
-                return 0;
-            }
             convent.remember();
             int eaten = 0;
             int dawn = convent.get(Convent.DAWN);
@@ -591,10 +573,11 @@ public final class CakeCalendar {
         }
 
         int wouldEat(int sister) {
-            if (convent == null || sister < 0 || sister >= SISTERS_MOST || convent.seatOf(sister) >= TABLES) {
+            int seat = convent.seatOf(sister);
+            if (seat == FASTS) {
                 return 0;
             }
-            cake.loadFrom(convent, convent.seatOf(sister));
+            cake.loadFrom(convent, seat);
             return eatenBy(1 << sister, cake);
         }
     }
@@ -684,7 +667,7 @@ public final class CakeCalendar {
 
         static void addChance(long[] to, int daysOn, int left, long weight) {
             int at = daysOn * LEFTS + left;
-            if (to != null && at >= 0 && at < to.length) {
+            if (at >= 0 && at < to.length) {
                 to[at] += weight;
             }
         }
@@ -759,7 +742,8 @@ public final class CakeCalendar {
         boolean comesJustAfter(int table, int set, int day, int n) {
             cake.loadFrom(convent, table);
             for (int i = 0; i < n; i++) {
-                if (cake.day >= day) {
+                // A DAWN brings one DAY at most, so a table too far behind need not be followed.
+                if (cake.day >= day || day - cake.day > n - i) {
                     return false;
                 }
                 kitchen.dawnAt(cake, set);
@@ -962,6 +946,18 @@ public final class CakeCalendar {
             }
         }
 
+        /** A law whose steps stand from there on to the end. */
+        void addLaw(int kind, int from) {
+            if (kind == Tokens.EATS) {
+                eatsFrom = from;
+                eatsTo = length;
+            } else {
+                slicesFrom = from;
+                slicesTo = length;
+            }
+            addClause(kind, 0, 0);
+        }
+
         void addClause(int kind, int first, int second) {
             if (clauses >= 0 && clauses < CLAUSES_MOST) {
                 kinds[clauses] = kind;
@@ -1060,11 +1056,12 @@ public final class CakeCalendar {
         }
 
         boolean spells(int from, int to) {
-            if (to - from != behind - start || from < 0 || to > WORDS.length()) {
+            int count = to - from;
+            if (count != behind - start || from < 0 || to > WORDS.length() || start < 0 || behind > TAPE_MOST) {
                 return false;
             }
-            for (int i = from; i < to; i++) {
-                if (WORDS.charAt(i) != byteAt(start + i - from)) {
+            for (int i = 0; i < count; i++) {
+                if (WORDS.charAt(from + i) != bytes[start + i]) {
                     return false;
                 }
             }
@@ -1192,26 +1189,15 @@ public final class CakeCalendar {
             } else {
                 tokens.advance();
                 if (kind == Tokens.SLICES || kind == Tokens.EATS) {
-                    readLaw(kind);
+                    int from = out.length;
+                    inEats = kind == Tokens.EATS;
+                    readSum(0);
+                    out.addLaw(kind, from);
                 } else {
                     readOrder(kind);
                 }
                 take(';');
             }
-        }
-
-        void readLaw(int kind) {
-            inEats = kind == Tokens.EATS;
-            int from = out.length;
-            readSum(0);
-            if (inEats) {
-                out.eatsFrom = from;
-                out.eatsTo = out.length;
-            } else {
-                out.slicesFrom = from;
-                out.slicesTo = out.length;
-            }
-            out.addClause(kind, 0, 0);
         }
 
         void readOrder(int kind) {
