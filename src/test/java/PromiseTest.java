@@ -620,6 +620,10 @@ public final class PromiseTest {
         due("DAWN", x.about(1), 993);
         told(x, "");
         due("an empty TEXT", x.played(3), -1);
+        CakeCalendar y = new CakeCalendar();
+        told(y, "hide 9 at 0;hide 3 at 0;pass 1;");
+        due("all that is LEFT can be HIDDEN", y.played(0), -1);
+        due("DAWN", y.about(1), 1);
     }
 
     private static void undo() {
@@ -788,6 +792,13 @@ public final class PromiseTest {
         due("7 of 10", y.odds(1, 1, 15, 0), upper / gcd(upper, 100000000000000L));
         due("7 of 10", y.odds(1, 1, 15, 1), 100000000000000L / gcd(upper, 100000000000000L));
         due("nothing is drawn", y.about(3), 11);
+        // 1+2+3+4 are eaten by 4 DAWNS; the mice must take 2 with 4 draws: 11 of 16.
+        CakeCalendar z = ruled("eats dawn;");
+        z.sister(0);
+        z.seat(0, 0);
+        z.mice(5);
+        due("dawn goes on", z.odds(0, 1, 5, 0), 11);
+        due("dawn goes on", z.odds(0, 1, 5, 1), 16);
     }
 
     private static long gcd(long a, long b) {
@@ -890,6 +901,12 @@ public final class PromiseTest {
         y.seat(1, 0);
         due("SISTER 0 stays", y.saint(0, 1, 3, 0), 0);
         due("SISTER 1 to SEAT 1", y.saint(0, 1, 3, 1), 1);
+        // A cake of 12 and one of 17, a slice a DAWN.
+        CakeCalendar last = ruled("slices 17;");
+        last.sister(1);
+        due("DAY 2 after 30", last.saint(1, 2, 30, -1), 1);
+        due("SISTER 0", last.saint(1, 2, 30, 0), 1);
+        due("DAY 2 after 29", last.saint(1, 2, 29, -1), -1);
         CakeCalendar z = new CakeCalendar();
         z.mice(10);
         z.pass(12);
@@ -960,7 +977,7 @@ public final class PromiseTest {
         x.seed(100);
         told(x, "slices 7;");
         x.by(0);
-        x.seen(9);
+        x.seen(4);
         due("pass(3)", x.pass(3) >= 9, true);
         int[] all = all(x);
         due("image()", x.image(), 3);
