@@ -753,7 +753,8 @@ public final class CakeCalendar {
 
         /** The i-th set that fits what was seen; how many, if i is NONE. */
         int nibblers(int table, int day, int i) {
-            int slices = kitchen.slicesAt(table, day, convent.get(Convent.DAWN));
+            // A cake is baked at its first DAWN, and that DAWN is one more already.
+            int slices = kitchen.slicesAt(table, day, convent.get(Convent.DAWN) + 1);
             int sets = 1 << Math.min(convent.sisters, SISTERS_MOST);
             int found = 0;
             for (int set = 0; set < sets; set++) {
@@ -773,11 +774,11 @@ public final class CakeCalendar {
 
         boolean fitsSeen(int set) {
             for (int i = 0; i < convent.seenCount && i < SEEN_MOST; i++) {
+                cake.dawn++;
                 kitchen.eatenBy(set, cake);
                 if (cake.left != convent.seen[i]) {
                     return false;
                 }
-                cake.dawn++;
             }
             return true;
         }

@@ -1101,14 +1101,14 @@ public final class ModelTest {
 
         int[] leftBy(int table, int day, int set, int dawns) {
             int[] out = new int[dawns];
-            int left = slicesOf(table, day, s.moves.dawn);
-            for (int i = 0; i < dawns; i++) {
+            int left = slicesOf(table, day, s.moves.dawn + 1);
+            for (int i = 1; i <= dawns; i++) {
                 for (int k = 0; k < s.sisters.size(); k++) {
                     if ((set >> k & 1) == 1) {
                         left -= eatsOf(k, table, day, s.moves.dawn + i, left);
                     }
                 }
-                out[i] = left;
+                out[i - 1] = left;
             }
             return out;
         }

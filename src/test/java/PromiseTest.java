@@ -954,17 +954,65 @@ public final class PromiseTest {
         due("TABLE 2", x.who(2, 4, -1), -1);
         due("DAY 1000", x.who(0, 1000, -1), -1);
         due("DAY -1", x.who(0, -1, -1), -1);
-        // dawn is as now at the first DAWN of the cake, one more at each behind it.
+        namesOfWho();
+    }
+
+    /** At the first DAWN of the cake, where it is baked too, dawn is DAWN as now and one more; then one more each. */
+    private static void namesOfWho() {
+        CakeCalendar x = ruled("eats dawn;");
+        x.sister(0);
+        x.seen(11);
+        due("dawn is 1 at the first", x.who(0, 0, 0), 1);
+        x.seen(9);
+        due("2 at the second", x.who(0, 0, 0), 1);
+        x.seen(6);
+        due("3 at the third", x.who(0, 0, -1), 1);
+        x.seen(3);
+        due("not 3 at the fourth", x.who(0, 0, -1), 0);
         CakeCalendar y = ruled("slices 20+dawn+day+table;eats dawn+sister+left/20;");
         y.sister(9);
         y.sister(9);
         y.pass(2);
-        // A cake of 20+2+3+1 = 26: SISTER 1 eats 2+1+1 = 4 of it, then 3+1+1 = 5 of 22, then 4+1+0 of 17.
+        // A cake of 20+3+3+1 = 27: SISTER 1 eats 3+1+1 = 5 of it, then 4+1+1 = 6 of 22, then 5+1+0 of 16.
         y.seen(22);
-        y.seen(17);
-        y.seen(12);
+        y.seen(16);
+        y.seen(10);
         due("names as they would be", y.who(1, 3, -1), 1);
         due("SISTER 1", y.who(1, 3, 0), 2);
+        due("a larger cake", y.who(1, 4, -1), 0);
+        due("DAWN stays", y.about(1), 2);
+        // What a real cake leaves, from its first DAWN on, is what WHO says ahead of that DAWN.
+        CakeCalendar z = ruled("slices 9+dawn*3-day;eats 1+dawn/2+sister;");
+        z.sister(1);
+        z.sister(1);
+        z.seat(1, 0);
+        while (z.about(1) < 99 && (z.of(0, 0) < 1 || z.of(0, 1) > 0)) {
+            z.pass(1);
+        }
+        due("eaten up", z.of(0, 1), 0);
+        int day = z.of(0, 0) + 1;
+        int[] left = new int[3];
+        for (int i = 0; i < left.length; i++) {
+            z.pass(1);
+            left[i] = z.of(0, 1);
+        }
+        due("a cake goes on", left[2] > 0, true);
+        for (int i = 0; i < left.length; i++) {
+            z.undo();
+            z.seen(left[i]);
+        }
+        due("the real one fits", z.who(0, day, -1), 1);
+        due("SISTER 1 sat there", z.who(0, day, 0), 2);
+        // At DAWN 999 the first DAWN of the cake would be 1000.
+        CakeCalendar last = ruled("eats dawn-998;");
+        last.sister(0);
+        for (int i = 0; i < 10; i++) {
+            last.pass(99);
+        }
+        last.pass(9);
+        last.seen(10);
+        due("DAWN", last.about(1), 999);
+        due("dawn is 1000", last.who(0, 0, 0), 1);
     }
 
     private static void imageAndBack() {
