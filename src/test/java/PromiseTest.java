@@ -1,10 +1,7 @@
 import java.util.Arrays;
 
 /** For each promise of the document: ordinary calls, the edges that it names, and wrong calls. */
-public final class PromiseTest {
-    private static int wrong = 0;
-    private static int promise = 0;
-
+public final class PromiseTest extends Check {
     public static void main(String[] args) {
         newObject();
         sister();
@@ -40,64 +37,7 @@ public final class PromiseTest {
         seenAndWho();
         imageAndBack();
         about();
-        System.out.println(wrong == 0 ? "promises: all answers are as due" : "promises: " + wrong + " answers are not as due");
-        if (wrong != 0) {
-            System.exit(1);
-        }
-    }
-
-    private static void due(String call, long got, long want) {
-        if (got != want) {
-            wrong++;
-            System.out.println("promise " + promise + ": " + call + " answered " + got + ", due is " + want);
-        }
-    }
-
-    private static void due(String call, boolean got, boolean want) {
-        due(call, got ? 1 : 0, want ? 1 : 0);
-    }
-
-    /** Puts a text on the tape in place of what is there. */
-    private static void tape(CakeCalendar x, String text) {
-        x.end(0);
-        for (int i = 0; i < text.length(); i += 20) {
-            int[] w = new int[5];
-            for (int k = 0; k < 20; k++) {
-                int b = i + k < text.length() ? text.charAt(i + k) : 0;
-                w[k / 4] = w[k / 4] << 8 | b;
-            }
-            x.feed(w[0], w[1], w[2], w[3], w[4]);
-        }
-        x.end(text.length());
-    }
-
-    private static int told(CakeCalendar x, String text) {
-        tape(x, text);
-        return x.text();
-    }
-
-    private static CakeCalendar ruled(String text) {
-        CakeCalendar x = new CakeCalendar();
-        due("text() of " + text, told(x, text), 0);
-        due("by(0)", x.by(0), true);
-        return x;
-    }
-
-    private static void faulty(String text, int fault, int place) {
-        CakeCalendar x = new CakeCalendar();
-        due("text() of " + text, told(x, text), fault == 0 ? 0 : CakeCalendar.NONE);
-        due("fault(0) of " + text, x.fault(0), fault);
-        due("fault(1) of " + text, x.fault(1), place);
-    }
-
-    private static void sound(String text) {
-        faulty(text, 0, -1);
-    }
-
-    /** What a SUM is worth, seen through comparisons, as slices are held in 1 .. 60. */
-    private static void worth(String sum, int value) {
-        CakeCalendar x = ruled("slices if (" + sum + ")=" + (value < 0 ? "0-" + -value / 1000 + "*1000-" + -value % 1000 : value / 1000 + "*1000+" + value % 1000) + "?7:8 end;");
-        due(sum + " is " + value, x.slices(0, 0), 7);
+        finish("promises");
     }
 
     private static void newObject() {
