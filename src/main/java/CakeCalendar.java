@@ -369,11 +369,11 @@ public final class CakeCalendar {
         static final int X = 13;
         static final int ROW = 14;
 
-        final int[] row = new int[ROW];
-        final int[] rowsAhead = new int[ROW * STEPS_MOST];
-        int nextStep = 0;
+        private final int[] row = new int[ROW];
+        private final int[] rowsAhead = new int[ROW * STEPS_MOST];
+        private int nextStep = 0;
         int steps = 0;
-        final int[] appetites = new int[SISTERS_MOST];
+        private final int[] appetites = new int[SISTERS_MOST];
         int sisters = 0;
         int mice = 0;
         int texts = 0;
@@ -502,9 +502,9 @@ public final class CakeCalendar {
 
     /** Bakes and eats by THE TEXT's laws. */
     private static final class Kitchen {
-        final Convent convent;
-        final Cake cake = new Cake();
-        final Sums sums = new Sums();
+        private final Convent convent;
+        private final Cake cake = new Cake();
+        private final Sums sums = new Sums();
         Text law = null;
 
         Kitchen(Convent convent) {
@@ -566,7 +566,7 @@ public final class CakeCalendar {
             return eaten;
         }
 
-        boolean drawnForMice() {
+        private boolean drawnForMice() {
             int x = convent.get(Convent.X);
             convent.put(Convent.X, (x * 173 + 79) % 30089);
             return x % 10 < convent.mice;
@@ -587,13 +587,13 @@ public final class CakeCalendar {
         static final int LEFTS = SLICES_MOST + 1;
         static final int CHANCES = (ODDS_DAWNS_MOST + 1) * LEFTS;
 
-        final Convent convent;
-        final Kitchen kitchen;
-        final Cake cake = new Cake();
-        final int[] tried = new int[SISTERS_MOST];
-        final int[] best = new int[SISTERS_MOST];
-        long[] chances = new long[CHANCES];
-        long[] chancesAfter = new long[CHANCES];
+        private final Convent convent;
+        private final Kitchen kitchen;
+        private final Cake cake = new Cake();
+        private final int[] tried = new int[SISTERS_MOST];
+        private final int[] best = new int[SISTERS_MOST];
+        private long[] chances = new long[CHANCES];
+        private long[] chancesAfter = new long[CHANCES];
 
         Foresight(Convent convent, Kitchen kitchen) {
             this.convent = convent;
@@ -642,7 +642,7 @@ public final class CakeCalendar {
             return weight;
         }
 
-        void spreadChances(int table, int firstDay, int dawnsGone) {
+        private void spreadChances(int table, int firstDay, int dawnsGone) {
             Arrays.fill(chancesAfter, 0L);
             int set = convent.sitters(table);
             int mice = convent.mice;
@@ -665,7 +665,7 @@ public final class CakeCalendar {
             chancesAfter = old;
         }
 
-        static void addChance(long[] to, int daysOn, int left, long weight) {
+        private static void addChance(long[] to, int daysOn, int left, long weight) {
             int at = daysOn * LEFTS + left;
             if (at >= 0 && at < to.length) {
                 to[at] += weight;
@@ -713,7 +713,7 @@ public final class CakeCalendar {
             return sister >= 0 && sister < SISTERS_MOST ? best[sister] : NONE;
         }
 
-        int trySeats(int table, int set) {
+        private int trySeats(int table, int set) {
             int changes = 0;
             for (int i = 0; i < SISTERS_MOST; i++) {
                 int seat = convent.seatOf(i);
@@ -730,7 +730,7 @@ public final class CakeCalendar {
             return changes;
         }
 
-        boolean triedIsLower() {
+        private boolean triedIsLower() {
             for (int i = 0; i < SISTERS_MOST; i++) {
                 if (tried[i] != best[i]) {
                     return tried[i] < best[i];
@@ -739,7 +739,7 @@ public final class CakeCalendar {
             return false;
         }
 
-        boolean comesJustAfter(int table, int set, int day, int n) {
+        private boolean comesJustAfter(int table, int set, int day, int n) {
             cake.loadFrom(convent, table);
             for (int i = 0; i < n; i++) {
                 // A DAWN brings one DAY at most, so a table too far behind need not be followed.
@@ -772,7 +772,7 @@ public final class CakeCalendar {
             return i == NONE ? found : NONE;
         }
 
-        boolean fitsSeen(int set) {
+        private boolean fitsSeen(int set) {
             for (int i = 0; i < convent.seenCount && i < SEEN_MOST; i++) {
                 cake.dawn++;
                 kitchen.eatenBy(set, cake);
@@ -808,8 +808,8 @@ public final class CakeCalendar {
         static final int STACK = 64;
         static final int NAMES = 6;
 
-        final int[] names = new int[NAMES];
-        final int[] stack = new int[STACK];
+        private final int[] names = new int[NAMES];
+        private final int[] stack = new int[STACK];
 
         void tell(int day, int table, int dawn) {
             names[0] = day;
@@ -852,26 +852,26 @@ public final class CakeCalendar {
                     return 0;
                 } else {
                     top--;
-                    stack[top - 1] = ofTwo(op, stack[top - 1], stack[top]);
+                    stack[top - 1] = held(ofTwo(op, stack[top - 1], stack[top]));
                 }
             }
             return stack[0];
         }
 
-        int nameAt(int name) {
+        private int nameAt(int name) {
             return name >= 0 && name < NAMES ? names[name] : 0;
         }
 
-        static int ofTwo(int op, int a, int b) {
+        private static long ofTwo(int op, long a, long b) {
             switch (op) {
                 case PLUS:
-                    return held((long) a + b);
+                    return a + b;
                 case MINUS:
-                    return held((long) a - b);
+                    return a - b;
                 case TIMES:
-                    return held((long) a * b);
+                    return a * b;
                 case BY:
-                    return b == 0 ? 0 : held((long) a / b);
+                    return b == 0 ? 0 : a / b;
                 case BELOW:
                     return a < b ? 1 : 0;
                 case AT_MOST:
@@ -893,7 +893,7 @@ public final class CakeCalendar {
             }
         }
 
-        static int held(long value) {
+        private static int held(long value) {
             if (value > SUM_LAST) {
                 return SUM_LAST;
             }
@@ -996,12 +996,12 @@ public final class CakeCalendar {
         static final int DAWN = 214;
         static final int LEFT = 217;
 
-        final int[] bytes = new int[TAPE_MOST];
+        private final int[] bytes = new int[TAPE_MOST];
         int length = 0;
         int kind = END;
         int start = 0;
         int value = 0;
-        int behind = 0;
+        private int behind = 0;
 
         void addWord(int word) {
             for (int shift = 24; shift >= 0; shift -= 8) {
@@ -1017,7 +1017,7 @@ public final class CakeCalendar {
             advance();
         }
 
-        int byteAt(int place) {
+        private int byteAt(int place) {
             return place >= 0 && place < length && place < TAPE_MOST ? bytes[place] : END;
         }
 
@@ -1038,7 +1038,7 @@ public final class CakeCalendar {
             }
         }
 
-        void readWord() {
+        private void readWord() {
             while (behind < length && isLetter(byteAt(behind))) {
                 behind++;
             }
@@ -1056,7 +1056,7 @@ public final class CakeCalendar {
             }
         }
 
-        boolean spells(int from, int to) {
+        private boolean spells(int from, int to) {
             int count = to - from;
             if (count != behind - start || from < 0 || to > WORDS.length() || start < 0 || behind > TAPE_MOST) {
                 return false;
@@ -1069,7 +1069,7 @@ public final class CakeCalendar {
             return true;
         }
 
-        void readNumber() {
+        private void readNumber() {
             kind = NUMBER;
             value = 0;
             while (behind < length && isDigit(byteAt(behind))) {
@@ -1079,7 +1079,7 @@ public final class CakeCalendar {
             }
         }
 
-        void readSign(int first) {
+        private void readSign(int first) {
             behind++;
             kind = isSign(first) ? first : NO_TOKEN;
             if ((first == '<' || first == '>') && byteAt(behind) == '=') {
@@ -1088,7 +1088,7 @@ public final class CakeCalendar {
             }
         }
 
-        static boolean isSign(int b) {
+        private static boolean isSign(int b) {
             for (int i = 0; i < SIGNS.length(); i++) {
                 if (SIGNS.charAt(i) == b) {
                     return true;
@@ -1097,15 +1097,15 @@ public final class CakeCalendar {
             return false;
         }
 
-        static boolean isBlank(int b) {
+        private static boolean isBlank(int b) {
             return b == 32 || b == 10;
         }
 
-        static boolean isLetter(int b) {
+        private static boolean isLetter(int b) {
             return b >= 'a' && b <= 'z' || b >= 'A' && b <= 'Z';
         }
 
-        static boolean isDigit(int b) {
+        private static boolean isDigit(int b) {
             return b >= '0' && b <= '9';
         }
     }
@@ -1119,9 +1119,9 @@ public final class CakeCalendar {
         static final int NOT_ITS_NAME = 5;
         static final int TOO_MANY = 6;
 
-        final Tokens tokens;
-        Text out = null;
-        boolean inEats = false;
+        private final Tokens tokens;
+        private Text out = null;
+        private boolean inEats = false;
         boolean used = false;
         int fault = 0;
         int place = NONE;
@@ -1146,14 +1146,14 @@ public final class CakeCalendar {
             return fault == 0;
         }
 
-        void fail(int with) {
+        private void fail(int with) {
             if (fault == 0) {
                 fault = with;
                 place = tokens.start;
             }
         }
 
-        void take(int kind) {
+        private void take(int kind) {
             if (fault != 0) {
                 return;
             }
@@ -1164,7 +1164,7 @@ public final class CakeCalendar {
             }
         }
 
-        int takeNumber(int low, int high) {
+        private int takeNumber(int low, int high) {
             if (fault != 0) {
                 return 0;
             }
@@ -1179,7 +1179,7 @@ public final class CakeCalendar {
             return value;
         }
 
-        void readClause() {
+        private void readClause() {
             int kind = tokens.kind;
             if (kind < Tokens.SLICES || kind > Tokens.PASS) {
                 fail(MISPLACED);
@@ -1201,7 +1201,7 @@ public final class CakeCalendar {
             }
         }
 
-        void readOrder(int kind) {
+        private void readOrder(int kind) {
             if (kind == Tokens.PASS) {
                 out.addClause(kind, takeNumber(1, 99), 0);
                 return;
@@ -1213,7 +1213,7 @@ public final class CakeCalendar {
             out.addClause(kind, first, second);
         }
 
-        void readSum(int open) {
+        private void readSum(int open) {
             readProduct(open);
             for (int i = 0; i < TAPE_MOST && fault == 0 && (tokens.kind == '+' || tokens.kind == '-'); i++) {
                 int op = tokens.kind == '+' ? Sums.PLUS : Sums.MINUS;
@@ -1223,7 +1223,7 @@ public final class CakeCalendar {
             }
         }
 
-        void readProduct(int open) {
+        private void readProduct(int open) {
             readOne(open);
             for (int i = 0; i < TAPE_MOST && fault == 0 && (tokens.kind == '*' || tokens.kind == '/'); i++) {
                 int op = tokens.kind == '*' ? Sums.TIMES : Sums.BY;
@@ -1233,7 +1233,7 @@ public final class CakeCalendar {
             }
         }
 
-        void readOne(int open) {
+        private void readOne(int open) {
             if (fault != 0) {
                 return;
             }
@@ -1257,7 +1257,7 @@ public final class CakeCalendar {
             }
         }
 
-        void readName(int kind) {
+        private void readName(int kind) {
             if (kind > Tokens.DAWN && !inEats) {
                 fail(NOT_ITS_NAME);
                 return;
@@ -1266,7 +1266,7 @@ public final class CakeCalendar {
             tokens.advance();
         }
 
-        boolean opens(int open) {
+        private boolean opens(int open) {
             if (open >= OPEN_MOST) {
                 fail(TOO_DEEP);
                 return false;
@@ -1275,7 +1275,7 @@ public final class CakeCalendar {
             return true;
         }
 
-        void readIf(int open) {
+        private void readIf(int open) {
             readEither(open);
             take('?');
             int toOther = out.length;
@@ -1290,7 +1290,7 @@ public final class CakeCalendar {
             take(Tokens.IF_END);
         }
 
-        void readEither(int open) {
+        private void readEither(int open) {
             readBoth(open);
             for (int i = 0; i < TAPE_MOST && fault == 0 && tokens.kind == Tokens.OR; i++) {
                 tokens.advance();
@@ -1299,7 +1299,7 @@ public final class CakeCalendar {
             }
         }
 
-        void readBoth(int open) {
+        private void readBoth(int open) {
             readAsk(open);
             for (int i = 0; i < TAPE_MOST && fault == 0 && tokens.kind == Tokens.AND; i++) {
                 tokens.advance();
@@ -1308,7 +1308,7 @@ public final class CakeCalendar {
             }
         }
 
-        void readAsk(int open) {
+        private void readAsk(int open) {
             if (fault != 0) {
                 return;
             }
@@ -1332,7 +1332,7 @@ public final class CakeCalendar {
             }
         }
 
-        static int comparison(int kind) {
+        private static int comparison(int kind) {
             switch (kind) {
                 case '<':
                     return Sums.BELOW;

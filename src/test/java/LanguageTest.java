@@ -1,3 +1,11 @@
+import com.sun.source.tree.CompilationUnitTree;
+import com.sun.source.tree.MethodInvocationTree;
+import com.sun.source.tree.MethodTree;
+import com.sun.source.tree.NewClassTree;
+import com.sun.source.util.JavacTask;
+import com.sun.source.util.TreePath;
+import com.sun.source.util.TreePathScanner;
+import com.sun.source.util.Trees;
 import java.lang.reflect.Constructor;
 import java.lang.reflect.Field;
 import java.lang.reflect.Method;
@@ -5,11 +13,20 @@ import java.lang.reflect.Modifier;
 import java.nio.file.Files;
 import java.nio.file.Path;
 import java.util.ArrayList;
+import java.util.HashMap;
+import java.util.HashSet;
 import java.util.List;
+import java.util.Map;
 import java.util.Set;
 import java.util.TreeSet;
 import java.util.regex.Matcher;
 import java.util.regex.Pattern;
+import javax.lang.model.element.Element;
+import javax.lang.model.element.TypeElement;
+import javax.lang.model.util.ElementFilter;
+import javax.tools.JavaCompiler;
+import javax.tools.StandardJavaFileManager;
+import javax.tools.ToolProvider;
 
 /** The rules of LANGUAGE.md that can be told from the source and the class, and the room that objects and calls take. */
 public final class LanguageTest {
@@ -24,6 +41,7 @@ public final class LanguageTest {
         face();
         classes();
         methodLengths(code);
+        calls();
         room();
         System.out.println(wrong == 0 ? "language: all rules are kept" : "language: " + wrong + " breaches");
         if (wrong != 0) {
@@ -115,6 +133,104 @@ public final class LanguageTest {
                     end++;
                 }
                 rule(11, end - i < 60, (end - i) + " lines: " + lines[i]);
+            }
+        }
+    }
+
+    /** Who calls whom, as the compiler sees it: recursion among private methods alone, and all other calls not too deep. */
+    private static void calls() throws Exception {
+        Map<Element, Set<Element>> called = new HashMap<>();
+        JavaCompiler compiler = ToolProvider.getSystemJavaCompiler();
+        try (StandardJavaFileManager files = compiler.getStandardFileManager(null, null, null)) {
+            JavacTask task = (JavacTask) compiler.getTask(null, files, null, List.of("-proc:none"), null, files.getJavaFileObjects(SOURCE));
+            Iterable<? extends CompilationUnitTree> units = task.parse();
+            task.analyze();
+            for (CompilationUnitTree unit : units) {
+                new Callers(Trees.instance(task), called).scan(unit, null);
+            }
+        }
+        called.values().forEach(to -> to.retainAll(called.keySet()));
+        Set<Element> round = new HashSet<>();
+        for (Element m : called.keySet()) {
+            if (reached(m, called).contains(m)) {
+                round.add(m);
+                rule(8, m.getModifiers().contains(javax.lang.model.element.Modifier.PRIVATE), m + " calls itself, but is not private");
+            }
+        }
+        int deepest = 0;
+        for (Element m : called.keySet()) {
+            deepest = Math.max(deepest, depth(m, called, round, new HashSet<>()));
+        }
+        rule(11, deepest <= 8, "calls that are no recursion go " + deepest + " deep");
+        // Of the 8 that are open around one another, and of the law around them, each method of the round is open once at most.
+        rule(8, deepest + 9 * round.size() < 300, "too many calls stand open at once");
+        rule(8, called.size() > 100 && round.size() == 7, "the calls were not found: " + called.size() + ", " + round);
+    }
+
+    private static Set<Element> reached(Element from, Map<Element, Set<Element>> called) {
+        List<Element> next = new ArrayList<>(called.get(from));
+        Set<Element> all = new HashSet<>(next);
+        for (int i = 0; i < next.size(); i++) {
+            for (Element m : called.get(next.get(i))) {
+                if (all.add(m)) {
+                    next.add(m);
+                }
+            }
+        }
+        return all;
+    }
+
+    /** The longest chain of calls from there on, without the methods of the round. */
+    private static int depth(Element m, Map<Element, Set<Element>> called, Set<Element> round, Set<Element> open) {
+        if (!open.add(m)) {
+            return 0;
+        }
+        int most = 0;
+        for (Element to : called.get(m)) {
+            most = Math.max(most, depth(to, called, round, open));
+        }
+        open.remove(m);
+        return most + (round.contains(m) ? 0 : 1);
+    }
+
+    private static final class Callers extends TreePathScanner<Void, Void> {
+        private final Trees trees;
+        private final Map<Element, Set<Element>> called;
+
+        Callers(Trees trees, Map<Element, Set<Element>> called) {
+            this.trees = trees;
+            this.called = called;
+        }
+
+        @Override
+        public Void visitMethod(MethodTree tree, Void none) {
+            called.computeIfAbsent(trees.getElement(getCurrentPath()), m -> new HashSet<>());
+            return super.visitMethod(tree, none);
+        }
+
+        @Override
+        public Void visitMethodInvocation(MethodInvocationTree tree, Void none) {
+            note(trees.getElement(new TreePath(getCurrentPath(), tree.getMethodSelect())));
+            return super.visitMethodInvocation(tree, none);
+        }
+
+        @Override
+        public Void visitNewClass(NewClassTree tree, Void none) {
+            note(trees.getElement(getCurrentPath()));
+            return super.visitNewClass(tree, none);
+        }
+
+        /** What stands beside the methods, the first values of fields, is the constructor's. */
+        private void note(Element to) {
+            for (TreePath p = getCurrentPath(); p != null; p = p.getParentPath()) {
+                Element around = p.getLeaf() instanceof MethodTree ? trees.getElement(p) : null;
+                if (trees.getElement(p) instanceof TypeElement type && p.getLeaf() instanceof com.sun.source.tree.ClassTree) {
+                    around = ElementFilter.constructorsIn(type.getEnclosedElements()).get(0);
+                }
+                if (around != null) {
+                    called.computeIfAbsent(around, m -> new HashSet<>()).add(to);
+                    return;
+                }
             }
         }
     }
